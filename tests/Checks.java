@@ -1,0 +1,76 @@
+import java.util.Objects;
+
+/** Counts tests; a test fails if one of its checks does. */
+final class Checks {
+    interface Call {
+        Object answer();
+    }
+
+    interface Maker {
+        TaskKernel make();
+    }
+
+    interface Use {
+        Object on(TaskKernel x);
+    }
+
+    private int passed = 0;
+    private int failed = 0;
+    private boolean good = true;
+    private String name = "";
+
+    void test(String title, Runnable body) {
+        name = title;
+        good = true;
+        try {
+            body.run();
+        } catch (RuntimeException | Error e) {
+            wrong("ended with " + e);
+        }
+        if (good) {
+            passed++;
+        } else {
+            failed++;
+        }
+    }
+
+    void due(String what, Object got, Object want) {
+        if (!Objects.equals(got, want)) {
+            wrong(what + " answered " + got + ", due is " + want);
+        }
+    }
+
+    /** The call throws exactly this exception. */
+    void thrown(String what, Class<? extends RuntimeException> want, Call call) {
+        Object got;
+        try {
+            got = call.answer();
+        } catch (RuntimeException e) {
+            got = e.getClass();
+        }
+        due(what, got, want);
+    }
+
+    /**
+     * The call throws exactly this exception, and nothing that can be asked has changed. Each is
+     * tried on an object of its own, as one object is good for 512 calls only.
+     */
+    void refused(Maker maker, String what, Class<? extends RuntimeException> want, Use use) {
+        TaskKernel x = maker.make();
+        String before = Picture.of(x);
+        thrown(what, want, () -> use.on(x));
+        due("the state after " + what, Picture.of(x), before);
+    }
+
+    void finish() {
+        System.out.println(passed + " passed, " + failed + " failed");
+        if (failed > 0) {
+            System.exit(1);
+        }
+    }
+
+    private void wrong(String text) {
+        good = false;
+        System.out.println(name + ": " + text);
+    }
+}
