@@ -40,15 +40,24 @@ final class Checks {
         }
     }
 
-    /** The call throws exactly this exception. */
+    /** The call throws exactly this exception, and by a throw statement of the class itself. */
     void thrown(String what, Class<? extends RuntimeException> want, Call call) {
         Object got;
         try {
             got = call.answer();
         } catch (RuntimeException e) {
-            got = e.getClass();
+            got = kindOf(e);
         }
         due(what, got, want);
+    }
+
+    /** The class of what the TaskKernel threw, or a text that says who else threw it. */
+    static Object kindOf(Throwable thrown) {
+        StackTraceElement[] trace = thrown.getStackTrace();
+        if (trace.length == 0 || !trace[0].getClassName().startsWith("TaskKernel")) {
+            return thrown + " that the class did not throw itself";
+        }
+        return thrown.getClass();
     }
 
     /**

@@ -396,6 +396,13 @@ public final class GroupsAndTasksTest {
             x.addPlain(0, weight, 500);
             x.pass(1);
             checks.due("timeOf with weight " + weight, x.timeOf(0), 3L * (2520 / weight));
+            TaskKernel y = new TaskKernel();
+            y.addCore(3);
+            y.addTimed(0, weight, 5, 2);
+            y.pass(3);
+            checks.due("of a timed task", y.timeOf(0), 2L * (2520 / weight));
+            y.pass(5);
+            checks.due("after a release", y.timeOf(0), 4L * (2520 / weight));
         }
         for (int far : FAR) {
             checks.refused(GroupsAndTasksTest::oneTask, "timeOf " + far, NOT_THERE,

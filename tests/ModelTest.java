@@ -129,7 +129,7 @@ public final class ModelTest {
             Arrays.fill(types, int.class);
             return on.getClass().getMethod(name, types).invoke(on, arguments);
         } catch (InvocationTargetException e) {
-            return e.getCause().getClass();
+            return on instanceof TaskKernel ? Checks.kindOf(e.getCause()) : e.getCause().getClass();
         } catch (ReflectiveOperationException e) {
             throw new IllegalStateException(e);
         }
