@@ -61,14 +61,39 @@ final class Checks {
     }
 
     /**
-     * The call throws exactly this exception, and nothing that can be asked has changed. Each is
-     * tried on an object of its own, as one object is good for 512 calls only.
+     * The call throws exactly this exception and changes nothing: all that can be asked is as on a
+     * twin without the call, at once and after the same further calls on both. Each call is tried
+     * on an object of its own, as one object is good for 512 calls only.
      */
     void refused(Maker maker, String what, Class<? extends RuntimeException> want, Use use) {
         TaskKernel x = maker.make();
-        String before = Picture.of(x);
+        TaskKernel twin = maker.make();
         thrown(what, want, () -> use.on(x));
-        due("the state after " + what, Picture.of(x), before);
+        due("the state after " + what, Picture.of(x), Picture.of(twin));
+        due("the calls after " + what, Picture.ofGoingOn(x), Picture.ofGoingOn(twin));
+    }
+
+    /** The call answers, whatever it answers. */
+    void allowed(Maker maker, String what, Use use) {
+        TaskKernel x = maker.make();
+        try {
+            use.on(x);
+        } catch (RuntimeException e) {
+            wrong(what + " ended with " + e);
+        }
+    }
+
+    /** Both ways of choosing answer this task. */
+    void chosen(TaskKernel x, String what, int core, int task) {
+        due(what + ": choice " + core, x.choice(core), task);
+        due(what + ": choiceByComparing " + core, x.choiceByComparing(core), task);
+    }
+
+    /** What both ways of choosing answer for the cores, in their order. */
+    void choices(TaskKernel x, String what, int... tasks) {
+        for (int core = 0; core < tasks.length; core++) {
+            chosen(x, what, core, tasks[core]);
+        }
     }
 
     void finish() {

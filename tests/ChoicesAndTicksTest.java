@@ -30,8 +30,7 @@ public final class ChoicesAndTicksTest {
     }
 
     private static void chosen(TaskKernel x, String what, int core, int task) {
-        checks.due(what + ": choice " + core, x.choice(core), task);
-        checks.due(what + ": choiceByComparing " + core, x.choiceByComparing(core), task);
+        checks.chosen(x, what, core, task);
     }
 
     private static TaskKernel oneCore(int speed) {

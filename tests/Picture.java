@@ -14,6 +14,21 @@ final class Picture {
         return picture.text.toString();
     }
 
+    /** What further calls answer, and everything that can be asked after them. */
+    static String ofGoingOn(TaskKernel x) {
+        Picture picture = new Picture();
+        picture.put("release", () -> x.release(0));
+        picture.put("take", () -> x.take(0, 1));
+        picture.put("pass", () -> x.pass(3));
+        picture.put("addCore", () -> x.addCore(1));
+        picture.put("addGroup", () -> x.addGroup(0, 1));
+        picture.put("addPlain", () -> x.addPlain(0, 1, 9));
+        picture.put("addTimed", () -> x.addTimed(0, 1, 10, 1));
+        picture.put("pass", () -> x.pass(1));
+        picture.text.append(of(x));
+        return picture.text.toString();
+    }
+
     private void put(String what, Checks.Call call) {
         Object got;
         try {
