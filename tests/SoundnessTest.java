@@ -10,8 +10,11 @@ public final class SoundnessTest {
 
     public static void main(String[] args) {
         checks.test("34 units done that do not add up", SoundnessTest::spoiledSum);
+        checks.test("34 units of the first and of the last task", SoundnessTest::spoiledSums);
         checks.test("34 a task that waits for itself", SoundnessTest::spoiledLock);
-        checks.test("34 choices that differ", SoundnessTest::spoiledTree);
+        checks.test("34 the first and the last task wait so", SoundnessTest::spoiledLocks);
+        checks.test("34 choices that differ for the last core", SoundnessTest::spoiledTree);
+        checks.test("34 choices that differ for the first core", SoundnessTest::spoiledRoot);
         checks.finish();
     }
 
@@ -35,10 +38,37 @@ public final class SoundnessTest {
         checks.due("isSound", x.isSound(), false);
     }
 
+    private static void spoiledSums() {
+        int[] firstAndLast = {0, 11};
+        for (int task : firstAndLast) {
+            TaskKernel x = Kernels.full();
+            x.pass(9);
+            int done = x.doneBy(task);
+            put(element(x, "tasks", task), "done", done + 1);
+            checks.due("one unit more by " + task, x.isSound(), false);
+            put(element(x, "tasks", task), "done", done - 1);
+            checks.due("one unit less by " + task, x.isSound(), false);
+            put(element(x, "tasks", task), "done", done);
+            checks.due("as it was", x.isSound(), true);
+        }
+    }
+
     private static void spoiledLock() {
         TaskKernel x = busy();
         put(element(x, "locks", 0), "holder", element(x, "tasks", 1));
         checks.due("isSound", x.isSound(), false);
+    }
+
+    private static void spoiledLocks() {
+        int[] firstAndLast = {0, 11};
+        for (int task : firstAndLast) {
+            TaskKernel x = Kernels.plain(Kernels.cores(1), 12, 9);
+            x.take(5, 3);
+            x.take(task, 3);
+            checks.due("it waits for another", x.isSound(), true);
+            put(element(x, "locks", 3), "holder", element(x, "tasks", task));
+            checks.due("it waits for itself, " + task, x.isSound(), false);
+        }
     }
 
     private static void spoiledTree() {
@@ -56,6 +86,21 @@ public final class SoundnessTest {
         checks.due("choiceByComparing(0)", x.choiceByComparing(0), 1);
         checks.due("choice(1)", x.choice(1), -1);
         checks.due("choiceByComparing(1)", x.choiceByComparing(1), 0);
+        checks.due("isSound", x.isSound(), false);
+    }
+
+    private static void spoiledRoot() {
+        TaskKernel x = Kernels.plain(Kernels.cores(1), 1, 9);
+        x.addGroup(0, 1);
+        x.addPlain(1, 1, 9);
+        x.pass(1);
+        checks.due("isSound", x.isSound(), true);
+        // The way down the tree begins in the group 1 now, and never comes to the task 0.
+        Object group = element(x, "groups", 1);
+        put(group, "done", x.doneIn(0));
+        put(x, "root", group);
+        checks.due("choice(0)", x.choice(0), 1);
+        checks.due("choiceByComparing(0)", x.choiceByComparing(0), 0);
         checks.due("isSound", x.isSound(), false);
     }
 

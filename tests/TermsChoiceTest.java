@@ -3,36 +3,40 @@ public final class TermsChoiceTest {
     private static final Checks checks = new Checks();
 
     public static void main(String[] args) {
-        checks.test("ready: it has not ended", TermsChoiceTest::ended);
-        checks.test("ready: it does not wait", TermsChoiceTest::waits);
-        checks.test("ready: it has units left", TermsChoiceTest::unitsLeft);
-        checks.test("the cores in the order of their numbers", TermsChoiceTest::orderOfCores);
-        checks.test("rests: the sum is greater than the power cap", TermsChoiceTest::eachCap);
-        checks.test("rests: a core that rests is not in the sum", TermsChoiceTest::restsNotInSum);
-        checks.test("rests: the sum of paces, not of speeds", TermsChoiceTest::sumOfPaces);
-        checks.test("rests: each pace by its own heat", TermsChoiceTest::oneHotCore);
-        checks.test("rests: a cap of 0", TermsChoiceTest::capOfZero);
-        checks.test("rests: no task at all", TermsChoiceTest::noTask);
-        checks.test("rests: no task that was not chosen before", TermsChoiceTest::fewTasks);
-        checks.test("the one with the least urgency", TermsChoiceTest::leastUrgency);
-        checks.test("of several, the lowest-numbered one", TermsChoiceTest::equalUrgencies);
-        checks.test("if some have an urgency: before all others", TermsChoiceTest::urgentFirst);
-        checks.test("an urgency of one that is not ready", TermsChoiceTest::urgentNotReady);
-        checks.test("if none is left that has an urgency", TermsChoiceTest::urgentChosen);
-        checks.test("the least virtual time of tasks", TermsChoiceTest::leastOfTasks);
-        checks.test("the least virtual time of groups", TermsChoiceTest::leastOfGroups);
-        checks.test("the least virtual time of a group and a task", TermsChoiceTest::leastOfBoth);
-        checks.test("of several, groups come before tasks", TermsChoiceTest::groupsFirst);
-        checks.test("of several groups, the lower-numbered", TermsChoiceTest::lowerGroup);
-        checks.test("of several tasks, the lower-numbered", TermsChoiceTest::lowerTask);
-        checks.test("no group without a task", TermsChoiceTest::emptyGroups);
-        checks.test("no group whose tasks are not ready", TermsChoiceTest::idleGroups);
-        checks.test("no group whose tasks were all chosen", TermsChoiceTest::chosenGroups);
-        checks.test("a group under which there is such a task", TermsChoiceTest::under);
-        checks.test("it goes on there: through all 6 groups", TermsChoiceTest::deepest);
-        checks.test("it goes on there, by the times in there", TermsChoiceTest::timesInThere);
-        checks.test("3 cores, 6 groups, 12 tasks", TermsChoiceTest::full);
+        test("ready: it has not ended", TermsChoiceTest::ended);
+        test("ready: it does not wait", TermsChoiceTest::waits);
+        test("ready: it has units left", TermsChoiceTest::unitsLeft);
+        test("the cores in the order of their numbers", TermsChoiceTest::orderOfCores);
+        test("rests: the sum is greater than the power cap", TermsChoiceTest::eachCap);
+        test("rests: a core that rests is not in the sum", TermsChoiceTest::restsNotInSum);
+        test("rests: the sum of paces, not of speeds", TermsChoiceTest::sumOfPaces);
+        test("rests: each pace by its own heat", TermsChoiceTest::oneHotCore);
+        test("rests: a cap of 0", TermsChoiceTest::capOfZero);
+        test("rests: no task at all", TermsChoiceTest::noTask);
+        test("rests: no task that was not chosen before", TermsChoiceTest::fewTasks);
+        test("the one with the least urgency", TermsChoiceTest::leastUrgency);
+        test("of several, the lowest-numbered one", TermsChoiceTest::equalUrgencies);
+        test("if some have an urgency: before all others", TermsChoiceTest::urgentFirst);
+        test("an urgency of one that is not ready", TermsChoiceTest::urgentNotReady);
+        test("if none is left that has an urgency", TermsChoiceTest::urgentChosen);
+        test("the least virtual time of tasks", TermsChoiceTest::leastOfTasks);
+        test("the least virtual time of groups", TermsChoiceTest::leastOfGroups);
+        test("the least virtual time of a group and a task", TermsChoiceTest::leastOfBoth);
+        test("of several, groups come before tasks", TermsChoiceTest::groupsFirst);
+        test("of several groups, the lower-numbered", TermsChoiceTest::lowerGroup);
+        test("of several tasks, the lower-numbered", TermsChoiceTest::lowerTask);
+        test("no group without a task", TermsChoiceTest::emptyGroups);
+        test("no group whose tasks are not ready", TermsChoiceTest::idleGroups);
+        test("no group whose tasks were all chosen", TermsChoiceTest::chosenGroups);
+        test("a group under which there is such a task", TermsChoiceTest::under);
+        test("it goes on there: through all 6 groups", TermsChoiceTest::deepest);
+        test("it goes on there, by the times in there", TermsChoiceTest::timesInThere);
+        test("3 cores, 6 groups, 12 tasks", TermsChoiceTest::full);
         checks.finish();
+    }
+
+    private static void test(String sentence, Runnable body) {
+        checks.test("Terms, Choice: " + sentence, body);
     }
 
     private static void ended() {

@@ -6,25 +6,29 @@ public final class TermsCoresTest {
     private static final Checks checks = new Checks();
 
     public static void main(String[] args) {
-        checks.test("What it is: at most 512 calls", TermsCoresTest::lastCall);
-        checks.test("Ticks: the present tick is 0 at first", TermsCoresTest::firstTick);
-        checks.test("Ticks: and at most 900", TermsCoresTest::lastTick);
-        checks.test("Ticks: at most 900, in one tick", TermsCoresTest::lastTickByOne);
-        checks.test("Ticks: in the tick 900 all other calls hold", TermsCoresTest::inLastTick);
-        checks.test("Cores: at most 3, numbered from 0 in their order", TermsCoresTest::threeCores);
-        checks.test("Cores: a speed from 1 to 4", TermsCoresTest::speeds);
-        checks.test("Cores: the heat is 0 at first, in the tick 0", TermsCoresTest::coldAtFirst);
-        checks.test("Cores: the heat is 0 at first, in a later tick", TermsCoresTest::coldLater);
-        checks.test("Cores: its speed if its heat is less than the limit", TermsCoresTest::below);
-        checks.test("Cores: half of its speed at the limit", TermsCoresTest::atLimit);
-        checks.test("Cores: half of its speed above the limit", TermsCoresTest::aboveLimit);
-        checks.test("Cores: the limit is 50 at first", TermsCoresTest::firstLimit);
-        checks.test("Cores: the least limit, 1", TermsCoresTest::leastLimit);
-        checks.test("Cores: the greatest limit, 99", TermsCoresTest::greatestLimit);
-        checks.test("Cores: half of each speed, rounded up", TermsCoresTest::halves);
-        checks.test("Cores: the heat has no greatest number", TermsCoresTest::greatHeat);
-        checks.test("Cores: the power cap is 12 at first", TermsCoresTest::firstCap);
+        test("the head: an object is used for at most 512 calls", TermsCoresTest::lastCall);
+        test("Ticks: the present tick is 0 at first", TermsCoresTest::firstTick);
+        test("Ticks: and at most 900", TermsCoresTest::lastTick);
+        test("Ticks: at most 900, in one tick", TermsCoresTest::lastTickByOne);
+        test("Ticks: in the tick 900 all other calls hold", TermsCoresTest::inLastTick);
+        test("Cores: at most 3, numbered from 0 in their order", TermsCoresTest::threeCores);
+        test("Cores: a speed from 1 to 4", TermsCoresTest::speeds);
+        test("Cores: the heat is 0 at first, in the tick 0", TermsCoresTest::coldAtFirst);
+        test("Cores: the heat is 0 at first, in a later tick", TermsCoresTest::coldLater);
+        test("Cores: its speed if its heat is less than the limit", TermsCoresTest::below);
+        test("Cores: half of its speed at the limit", TermsCoresTest::atLimit);
+        test("Cores: half of its speed above the limit", TermsCoresTest::aboveLimit);
+        test("Cores: the limit is 50 at first", TermsCoresTest::firstLimit);
+        test("Cores: the least limit, 1", TermsCoresTest::leastLimit);
+        test("Cores: the greatest limit, 99", TermsCoresTest::greatestLimit);
+        test("Cores: half of each speed, rounded up", TermsCoresTest::halves);
+        test("Cores: the heat has no greatest number", TermsCoresTest::greatHeat);
+        test("Cores: the power cap is 12 at first", TermsCoresTest::firstCap);
         checks.finish();
+    }
+
+    private static void test(String sentence, Runnable body) {
+        checks.test("Terms, " + sentence, body);
     }
 
     private static void lastCall() {

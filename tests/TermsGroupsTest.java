@@ -11,24 +11,28 @@ public final class TermsGroupsTest {
     private static final Checks checks = new Checks();
 
     public static void main(String[] args) {
-        checks.test("at most 6 groups, numbered from 0", TermsGroupsTest::sixGroups);
-        checks.test("the group 0 is there from the beginning", TermsGroupsTest::groupZero);
-        checks.test("a parent is a group with a lower number", TermsGroupsTest::parents);
-        checks.test("a group has a weight from 1 to 9", TermsGroupsTest::groupWeights);
-        checks.test("at most 12 tasks, numbered in their order", TermsGroupsTest::twelveTasks);
-        checks.test("at most 12 tasks, ended ones included", TermsGroupsTest::endedTasksCount);
-        checks.test("a task has a weight from 1 to 9", TermsGroupsTest::taskWeights);
-        checks.test("a task is plain or timed", TermsGroupsTest::plainOrTimed);
-        checks.test("members: not the members of members", TermsGroupsTest::members);
-        checks.test("a first member begins at 0", TermsGroupsTest::noneBefore);
-        checks.test("a new member begins at the least of the tasks", TermsGroupsTest::leastTask);
-        checks.test("a new member begins at the least of the groups", TermsGroupsTest::leastGroup);
-        checks.test("the least of one member", TermsGroupsTest::oneBefore);
-        checks.test("the least of equal times", TermsGroupsTest::equalTimes);
-        checks.test("ended tasks are included", TermsGroupsTest::endedIncluded);
-        checks.test("ended tasks are included if there are no others", TermsGroupsTest::allEnded);
-        checks.test("a member's time stays when another is added", TermsGroupsTest::othersStay);
+        test("at most 6 groups, numbered from 0", TermsGroupsTest::sixGroups);
+        test("the group 0 is there from the beginning", TermsGroupsTest::groupZero);
+        test("a parent is a group with a lower number", TermsGroupsTest::parents);
+        test("a group has a weight from 1 to 9", TermsGroupsTest::groupWeights);
+        test("at most 12 tasks, numbered in their order", TermsGroupsTest::twelveTasks);
+        test("at most 12 tasks, ended ones included", TermsGroupsTest::endedTasksCount);
+        test("a task has a weight from 1 to 9", TermsGroupsTest::taskWeights);
+        test("a task is plain or timed", TermsGroupsTest::plainOrTimed);
+        test("members: not the members of members", TermsGroupsTest::members);
+        test("a first member begins at 0", TermsGroupsTest::noneBefore);
+        test("a new member begins at the least of the tasks", TermsGroupsTest::leastTask);
+        test("a new member begins at the least of the groups", TermsGroupsTest::leastGroup);
+        test("the least of one member", TermsGroupsTest::oneBefore);
+        test("the least of equal times", TermsGroupsTest::equalTimes);
+        test("ended tasks are included", TermsGroupsTest::endedIncluded);
+        test("ended tasks are included if there are no others", TermsGroupsTest::allEnded);
+        test("a member's time stays when another is added", TermsGroupsTest::othersStay);
         checks.finish();
+    }
+
+    private static void test(String sentence, Runnable body) {
+        checks.test("Terms, Groups and tasks: " + sentence, body);
     }
 
     private static void sixGroups() {

@@ -9,32 +9,36 @@ public final class TermsLocksTest {
     private static final Checks checks = new Checks();
 
     public static void main(String[] args) {
-        checks.test("Locks: there are the locks 0 to 3", TermsLocksTest::fourLocks);
-        checks.test("Locks: below 0 and above 3", TermsLocksTest::noOtherLocks);
-        checks.test("Locks: a lock is free", TermsLocksTest::free);
-        checks.test("Locks: or a task holds it", TermsLocksTest::held);
-        checks.test("Locks: a task can hold all of them", TermsLocksTest::holdsAll);
-        checks.test("Locks: nobody waits", TermsLocksTest::nobodyWaits);
-        checks.test("Locks: one waits", TermsLocksTest::oneWaits);
-        checks.test("Locks: 11 wait, in the order in which they began", TermsLocksTest::allWait);
-        checks.test("Locks: who waits anew is the last", TermsLocksTest::waitsAnew);
-        checks.test("Locks: a task waits for at most one lock", TermsLocksTest::waitsForOne);
-        checks.test("Urgency: its deadline, with one unit left", TermsLocksTest::oneUnitLeft);
-        checks.test("Urgency: none, with no unit left", TermsLocksTest::noUnitLeft);
-        checks.test("Urgency: none, if it is plain", TermsLocksTest::plain);
-        checks.test("Urgency: its deadline in the tick of its release", TermsLocksTest::late);
-        checks.test("Urgency: lent by nobody", TermsLocksTest::lentByNobody);
-        checks.test("Urgency: lent by one", TermsLocksTest::lentByOne);
-        checks.test("Urgency: lent by the first and by the last of many", TermsLocksTest::lentByMany);
-        checks.test("Urgency: the least is its own", TermsLocksTest::ownIsLeast);
-        checks.test("Urgency: the least is lent", TermsLocksTest::lentIsLeast);
-        checks.test("Urgency: they are equal", TermsLocksTest::equal);
-        checks.test("Urgency: lent for each lock that it holds", TermsLocksTest::allLocks);
-        checks.test("Urgency: waiters that have none", TermsLocksTest::nothingToLend);
-        checks.test("Urgency: lent along the longest chain", TermsLocksTest::longestChain);
-        checks.test("Urgency: lent on from each place in the chain", TermsLocksTest::eachPlace);
-        checks.test("Urgency: not lent any more", TermsLocksTest::noMore);
+        test("Locks: there are the locks 0 to 3", TermsLocksTest::fourLocks);
+        test("Locks: below 0 and above 3", TermsLocksTest::noOtherLocks);
+        test("Locks: a lock is free", TermsLocksTest::free);
+        test("Locks: or a task holds it", TermsLocksTest::held);
+        test("Locks: a task can hold all of them", TermsLocksTest::holdsAll);
+        test("Locks: nobody waits", TermsLocksTest::nobodyWaits);
+        test("Locks: one waits", TermsLocksTest::oneWaits);
+        test("Locks: 11 wait, in the order in which they began", TermsLocksTest::allWait);
+        test("Locks: who waits anew is the last", TermsLocksTest::waitsAnew);
+        test("Locks: a task waits for at most one lock", TermsLocksTest::waitsForOne);
+        test("Urgency: its deadline, with one unit left", TermsLocksTest::oneUnitLeft);
+        test("Urgency: none, with no unit left", TermsLocksTest::noUnitLeft);
+        test("Urgency: none, if it is plain", TermsLocksTest::plain);
+        test("Urgency: its deadline in the tick of its release", TermsLocksTest::late);
+        test("Urgency: lent by nobody", TermsLocksTest::lentByNobody);
+        test("Urgency: lent by one", TermsLocksTest::lentByOne);
+        test("Urgency: lent by the first and by the last of many", TermsLocksTest::lentByMany);
+        test("Urgency: the least is its own", TermsLocksTest::ownIsLeast);
+        test("Urgency: the least is lent", TermsLocksTest::lentIsLeast);
+        test("Urgency: they are equal", TermsLocksTest::equal);
+        test("Urgency: lent for each lock that it holds", TermsLocksTest::allLocks);
+        test("Urgency: waiters that have none", TermsLocksTest::nothingToLend);
+        test("Urgency: lent along the longest chain", TermsLocksTest::longestChain);
+        test("Urgency: lent on from each place in the chain", TermsLocksTest::eachPlace);
+        test("Urgency: not lent any more", TermsLocksTest::noMore);
         checks.finish();
+    }
+
+    private static void test(String sentence, Runnable body) {
+        checks.test("Terms, " + sentence, body);
     }
 
     private static TaskKernel tasks(int count) {

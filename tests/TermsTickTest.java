@@ -3,36 +3,40 @@ public final class TermsTickTest {
     private static final Checks checks = new Checks();
 
     public static void main(String[] args) {
-        checks.test("First: released before the choices", TermsTickTest::releasedFirst);
-        checks.test("First: those that have not ended", TermsTickTest::endedNotReleased);
-        checks.test("First: those that wait too", TermsTickTest::waitingReleased);
-        checks.test("First: all whose release it is", TermsTickTest::allReleased);
-        checks.test("First: except those that were added in this tick", TermsTickTest::addedNow);
-        checks.test("Second: no task for two cores", TermsTickTest::oneForTwoCores);
-        checks.test("Second: all choices before the work", TermsTickTest::choicesFirst);
-        checks.test("Third: the units are the pace", TermsTickTest::paceUnits);
-        checks.test("Third: less 1 after another core", TermsTickTest::lessOne);
-        checks.test("Third: not less 1 the first time", TermsTickTest::firstTime);
-        checks.test("Third: not less 1 after the same core", TermsTickTest::sameCore);
-        checks.test("Third: the last time, not the tick before", TermsTickTest::afterRest);
-        checks.test("Third: the last time, if nothing was done then", TermsTickTest::nothingDone);
-        checks.test("Third: less 1 at the lower pace", TermsTickTest::lessOneWhenHot);
-        checks.test("Third: not more than are left", TermsTickTest::notMore);
-        checks.test("Third: not more than are left after a move", TermsTickTest::notMoreMoved);
-        checks.test("Third: the units are taken from those left", TermsTickTest::taken);
-        checks.test("Third: virtual times of the task and all groups", TermsTickTest::times);
-        checks.test("Third: virtual times by units, if fewer are left", TermsTickTest::fewerUnits);
-        checks.test("Third: virtual times, if no unit is done", TermsTickTest::noUnits);
-        checks.test("Third: the greatest virtual time", TermsTickTest::greatestTime);
-        checks.test("Fourth: the heat greater by the pace", TermsTickTest::hotter);
-        checks.test("Fourth: by the pace, if fewer units are done", TermsTickTest::hotterThanUnits);
-        checks.test("Fourth: by the pace, after a move", TermsTickTest::hotterMoved);
-        checks.test("Fourth: by the pace before it is hot", TermsTickTest::paceBefore);
-        checks.test("Fourth: less by 3, but not less than 0", TermsTickTest::cooler);
-        checks.test("Fourth: less by 3 of each other core", TermsTickTest::othersCooler);
-        checks.test("Then the next tick is the present one", TermsTickTest::nextTick);
-        checks.test("Several ticks are as many single ones", TermsTickTest::singleTicks);
+        test("First: released before the choices", TermsTickTest::releasedFirst);
+        test("First: those that have not ended", TermsTickTest::endedNotReleased);
+        test("First: those that wait too", TermsTickTest::waitingReleased);
+        test("First: all whose release it is", TermsTickTest::allReleased);
+        test("First: except those that were added in this tick", TermsTickTest::addedNow);
+        test("Second: no task for two cores", TermsTickTest::oneForTwoCores);
+        test("Second: all choices before the work", TermsTickTest::choicesFirst);
+        test("Third: the units are the pace", TermsTickTest::paceUnits);
+        test("Third: less 1 after another core", TermsTickTest::lessOne);
+        test("Third: not less 1 the first time", TermsTickTest::firstTime);
+        test("Third: not less 1 after the same core", TermsTickTest::sameCore);
+        test("Third: the last time, not the tick before", TermsTickTest::afterRest);
+        test("Third: the last time, if nothing was done then", TermsTickTest::nothingDone);
+        test("Third: less 1 at the lower pace", TermsTickTest::lessOneWhenHot);
+        test("Third: not more than are left", TermsTickTest::notMore);
+        test("Third: not more than are left after a move", TermsTickTest::notMoreMoved);
+        test("Third: the units are taken from those left", TermsTickTest::taken);
+        test("Third: virtual times of the task and all groups", TermsTickTest::times);
+        test("Third: virtual times by units, if fewer are left", TermsTickTest::fewerUnits);
+        test("Third: virtual times, if no unit is done", TermsTickTest::noUnits);
+        test("Third: the greatest virtual time", TermsTickTest::greatestTime);
+        test("Fourth: the heat greater by the pace", TermsTickTest::hotter);
+        test("Fourth: by the pace, if fewer units are done", TermsTickTest::hotterThanUnits);
+        test("Fourth: by the pace, after a move", TermsTickTest::hotterMoved);
+        test("Fourth: by the pace before it is hot", TermsTickTest::paceBefore);
+        test("Fourth: less by 3, but not less than 0", TermsTickTest::cooler);
+        test("Fourth: less by 3 of each other core", TermsTickTest::othersCooler);
+        test("Then the next tick is the present one", TermsTickTest::nextTick);
+        test("Several ticks are as many single ones", TermsTickTest::singleTicks);
         checks.finish();
+    }
+
+    private static void test(String sentence, Runnable body) {
+        checks.test("Terms, What happens in a tick: " + sentence, body);
     }
 
     private static void releasedFirst() {

@@ -9,32 +9,36 @@ public final class TermsWorkTest {
     private static final Checks checks = new Checks();
 
     public static void main(String[] args) {
-        checks.test("Work: a plain task, the least number of units", TermsWorkTest::oneUnit);
-        checks.test("Work: a plain task, the greatest number", TermsWorkTest::manyUnits);
-        checks.test("Work: released in the tick in which it is added", TermsWorkTest::added);
-        checks.test("Work: released again after the least period", TermsWorkTest::leastPeriod);
-        checks.test("Work: released again after the greatest period", TermsWorkTest::greatPeriod);
-        checks.test("Work: the least budget is left then", TermsWorkTest::leastBudget);
-        checks.test("Work: the greatest budget is left then", TermsWorkTest::greatBudget);
-        checks.test("Work: the deadline is the tick of its next release", TermsWorkTest::deadline);
-        checks.test("Work: no miss if no unit was left", TermsWorkTest::noMiss);
-        checks.test("Work: a miss if one unit was left", TermsWorkTest::missOfOne);
-        checks.test("Work: a miss if the whole budget was left", TermsWorkTest::missOfAll);
-        checks.test("Work: a miss at the release, not before it", TermsWorkTest::missInTime);
-        checks.test("Admission: the share, rounded up", TermsWorkTest::shares);
-        checks.test("Admission: the promise without cores", TermsWorkTest::noCores);
-        checks.test("Admission: the promise is the sum of the speeds", TermsWorkTest::sumOfSpeeds);
-        checks.test("Admission: but at most the power cap", TermsWorkTest::atMostTheCap);
-        checks.test("Admission: of the speeds, not of the paces", TermsWorkTest::hotCores);
-        checks.test("Admission: a sum of 1000 times the promise", TermsWorkTest::justAdmitted);
-        checks.test("Admission: a sum of 1 more", TermsWorkTest::justNotAdmitted);
-        checks.test("Admission: the share of one alone", TermsWorkTest::oneAlone);
-        checks.test("Admission: the greatest promise", TermsWorkTest::greatestPromise);
-        checks.test("Admission: nothing is promised", TermsWorkTest::nothingPromised);
-        checks.test("Admission: that have not ended", TermsWorkTest::endedDoNotCount);
-        checks.test("Admission: plain tasks do not count", TermsWorkTest::plainDoNotCount);
-        checks.test("Admission: what was admitted stays", TermsWorkTest::stays);
+        test("Work: a plain task, the least number of units", TermsWorkTest::oneUnit);
+        test("Work: a plain task, the greatest number", TermsWorkTest::manyUnits);
+        test("Work: released in the tick in which it is added", TermsWorkTest::added);
+        test("Work: released again after the least period", TermsWorkTest::leastPeriod);
+        test("Work: released again after the greatest period", TermsWorkTest::greatPeriod);
+        test("Work: the least budget is left then", TermsWorkTest::leastBudget);
+        test("Work: the greatest budget is left then", TermsWorkTest::greatBudget);
+        test("Work: the deadline is the tick of its next release", TermsWorkTest::deadline);
+        test("Work: no miss if no unit was left", TermsWorkTest::noMiss);
+        test("Work: a miss if one unit was left", TermsWorkTest::missOfOne);
+        test("Work: a miss if the whole budget was left", TermsWorkTest::missOfAll);
+        test("Work: a miss at the release, not before it", TermsWorkTest::missInTime);
+        test("Admission: the share, rounded up", TermsWorkTest::shares);
+        test("Admission: the promise without cores", TermsWorkTest::noCores);
+        test("Admission: the promise is the sum of the speeds", TermsWorkTest::sumOfSpeeds);
+        test("Admission: but at most the power cap", TermsWorkTest::atMostTheCap);
+        test("Admission: of the speeds, not of the paces", TermsWorkTest::hotCores);
+        test("Admission: a sum of 1000 times the promise", TermsWorkTest::justAdmitted);
+        test("Admission: a sum of 1 more", TermsWorkTest::justNotAdmitted);
+        test("Admission: the share of one alone", TermsWorkTest::oneAlone);
+        test("Admission: the greatest promise", TermsWorkTest::greatestPromise);
+        test("Admission: nothing is promised", TermsWorkTest::nothingPromised);
+        test("Admission: that have not ended", TermsWorkTest::endedDoNotCount);
+        test("Admission: plain tasks do not count", TermsWorkTest::plainDoNotCount);
+        test("Admission: what was admitted stays", TermsWorkTest::stays);
         checks.finish();
+    }
+
+    private static void test(String sentence, Runnable body) {
+        checks.test("Terms, " + sentence, body);
     }
 
     private static void oneUnit() {
