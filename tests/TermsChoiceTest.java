@@ -91,6 +91,12 @@ public final class TermsChoiceTest {
             x.setCap(cap);
             checks.choices(x, "a cap of " + cap, due[cap]);
         }
+        TaskKernel y = Kernels.plain(Kernels.cores(4, 4, 4), 3, 9);
+        for (int cap = 0; cap <= 12; cap++) {
+            y.setCap(cap);
+            checks.choices(y, "4, 8, 12 under " + cap, cap < 4 ? -1 : 0, cap < 8 ? -1 : 1,
+                    cap < 12 ? -1 : 2);
+        }
     }
 
     private static void restsNotInSum() {
