@@ -11,6 +11,8 @@ import java.util.Arrays;
 import java.util.List;
 import java.util.Set;
 import java.util.TreeSet;
+import java.util.regex.Matcher;
+import java.util.regex.Pattern;
 
 /** The public face of the document, and the rules of LANGUAGE.md that a test can look at. */
 public final class FaceTest {
@@ -54,6 +56,8 @@ public final class FaceTest {
         "boolean isSound()",
     };
 
+    private static final Pattern CALL = Pattern.compile("\\.(\\w+)\\(");
+
     private static final Checks checks = new Checks();
 
     public static void main(String[] args) {
@@ -61,6 +65,8 @@ public final class FaceTest {
         checks.test("nothing else is seen from outside", FaceTest::nothingElse);
         checks.test("static fields are final, names are not shared", FaceTest::fieldsAndNames);
         checks.test("the words of the file", FaceTest::words);
+        checks.test("the calls in the file", FaceTest::calls);
+        checks.test("the classes inside", FaceTest::classesInside);
         checks.test("the lengths in the file", FaceTest::lengths);
         checks.finish();
     }
@@ -160,6 +166,52 @@ public final class FaceTest {
                 checks.due(line, line.equals("import java.util.ArrayList;")
                         || line.equals("import java.util.NoSuchElementException;"), true);
             }
+        }
+    }
+
+    /** Rule 4: what is called with a dot is a method of the file or one of the library's list. */
+    private static void calls() {
+        Set<String> known = new TreeSet<>(List.of("add", "get", "size", "isEmpty", "remove", "min",
+                "max"));
+        for (Class<?> c : TaskKernel.class.getDeclaredClasses()) {
+            for (Method method : c.getDeclaredMethods()) {
+                known.add(method.getName());
+            }
+        }
+        for (String line : lines()) {
+            Matcher call = CALL.matcher(line);
+            while (call.find()) {
+                checks.due(call.group(1) + " may be called: " + line, known.contains(call.group(1)),
+                        true);
+            }
+        }
+    }
+
+    /** Rules 1 and 6: private members alone, no exceptions of its own, no throw in a constructor. */
+    private static void classesInside() {
+        for (Class<?> c : TaskKernel.class.getDeclaredClasses()) {
+            checks.due(c + " is no exception", Throwable.class.isAssignableFrom(c), false);
+            for (Field field : c.getDeclaredFields()) {
+                privateOnly(field);
+            }
+            for (Method method : c.getDeclaredMethods()) {
+                privateOnly(method);
+            }
+            for (Constructor<?> maker : c.getDeclaredConstructors()) {
+                checks.due(maker + " throws", maker.getExceptionTypes().length, 0);
+                int parameters = maker.getParameterCount();
+                checks.due(maker + " has at most 7 parameters", parameters <= 7, true);
+            }
+        }
+        boolean inMaker = false;
+        for (String line : lines()) {
+            if (line.matches(" {4}( {4})?(private|public) [A-Z]\\w*\\(.*")) {
+                inMaker = true;
+            } else if (line.matches(" {4}( {4})?}")) {
+                inMaker = false;
+            }
+            boolean throwing = line.contains("throw ");
+            checks.due("a throw in a constructor: " + line, inMaker && throwing, false);
         }
     }
 
